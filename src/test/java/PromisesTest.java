@@ -238,6 +238,14 @@ public final class PromisesTest {
         is("an eleventh undo", x.undo(), -3);
         is("count(5)", x.count(5), 11);
         statusIs("undo", x, 0, 3, 0);
+        GriefGlue y = Due.shop("mourner 0 90 0;joint 0;");
+        for (int d = 0; d < 14; d++) {
+            y.day(d * 3);
+        }
+        for (int i = 12; i >= 3; i--) {
+            y.undo();
+            is("undone: the day", y.count(5), i * 3);
+        }
     }
 
     private static void promise10Type() {
@@ -320,6 +328,12 @@ public final class PromisesTest {
         is("undo() behind read", x.undo(), -3);
         is("the image stays", x.from(0), 1);
         is("facts of the image", x.count(4), 1);
+        Due.put(x, "mourner 0 9 9;mourner 0 9 9;joint 9;boil 0 1 0;");
+        is("read() of two that boil", x.read(), 4);
+        is("opens(0)", x.opens(0), 1);
+        Due.put(x, "joint 9;");
+        is("read() of a joint that nobody boils", x.read(), 1);
+        is("opens(0)", x.opens(0), -1);
         Due.put(x, "");
         is("read() of an empty text", x.read(), 0);
         is("nobody", x.digest(), mixed(0, 0, 0, 0, 0, 0, 0, 0, 0, 1));
@@ -335,6 +349,8 @@ public final class PromisesTest {
         fault("mourner 5 0 100;", 12);
         fault("mourner 5 0 0 0;", 14);
         fault("mourner 5 0;", 11);
+        fault("point 5;", 0);
+        fault("joins 5;", 0);
         fault("joint;", 5);
         fault("joint 1 2;", 8);
         fault("joint 1;;", 8);
@@ -526,6 +542,13 @@ public final class PromisesTest {
         is("one alone ahead", y.who(0), 61);
         y.piece(2, 1);
         is("no hire of it", y.who(0), -1);
+        GriefGlue z = Due.shop("mourner 0 1 0;mourner 2 62 5;mourner 0 1 0;mourner 0 44 3;onion 2 3;onion 2 3;onion 2 3;"
+                + "joint 9;joint 9;joint 9;joint 9;joint 9;joint 50;piece 32 5;");
+        is("hire(1)", z.hire(1), 10);
+        is("who(5): two, neither of them 0", z.who(5), 13);
+        z.piece(63, 0);
+        is("who(4)", z.who(4), 61);
+        is("who(5)", z.who(5), 13);
     }
 
     private static void promise19Saves() {
@@ -540,6 +563,7 @@ public final class PromisesTest {
         is("not without him", x.saves(0), -1);
         x.feast(0, 1, 0);
         is("not at all", x.saves(2), -1);
+        is("not at all", x.saves(0), -1);
     }
 
     private static void promise20Tears() {
@@ -658,6 +682,15 @@ public final class PromisesTest {
         x.feast(1, 7, 2);
         odds(x, 2, 97, 1, 2, 4, 5);
         odds(x, 2, 98, 1, 2, 0, 1);
+        x.mourner(0, 0, 0);
+        odds(x, 3, 0, 2, 5, 1, 1);
+        odds(x, 3, 1, 2, 5, 0, 1);
+        x.feast(1, 8, 3);
+        odds(x, 3, 5, 2, 5, 1, 2);
+        x.skip();
+        x.feast(0, 7, 3);
+        x.feast(1, 7, 3);
+        odds(x, 3, 5, 1, 5, 1, 2);
         x.day(98);
         odds(x, 0, 0, 1, 5, 1, 1);
         is("a day beyond 99", x.odds(0, 0, 2, 5), -2);
@@ -716,8 +749,18 @@ public final class PromisesTest {
         is("undo() goes on", x.undo(), 1);
         is("undo() goes on", x.undo(), 1);
         is("undo() ends", x.undo(), -3);
+        is("the day ahead of all", x.count(5), 0);
         is("from(0) again", x.from(0), 1);
         is("as it was", x.digest(), before);
+        x.undo();
+        x.undo();
+        x.day(20);
+        x.day(21);
+        x.from(0);
+        x.undo();
+        is("undone from an image: the day", x.count(5), 1);
+        x.undo();
+        is("undone from an image: the first day", x.count(5), 0);
         is("from(1)", x.from(1), 1);
         is("griefs of it", x.grief(0, 3), 37);
         is("its day", x.count(5), 9);

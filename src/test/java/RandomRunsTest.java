@@ -119,7 +119,9 @@ public final class RandomRunsTest {
                 return is("type(" + v + ", " + n + ")", glue.type(v, n), model.type(v, n));
             }
             case 12:
-                return random.nextInt(3) == 0 ? is("clear()", glue.clear(), model.clear()) : tellShop();
+                return random.nextInt(3) == 0 ? is("clear()", glue.clear(), model.clear()) : typeAndRead(anyShop());
+            case 14:
+                return typeAndRead(closeShop());
             case 13:
                 return is("read()", glue.read(), model.read());
             default:
@@ -211,8 +213,25 @@ public final class RandomRunsTest {
         }
     }
 
-    /** A shop's text, often with a fault, is typed and read. */
-    private String tellShop() {
+    /** A shop where one alone often does not do, and two do: griefs near the loads, onions soon. */
+    private String closeShop() {
+        StringBuilder told = new StringBuilder();
+        int mourners = 3 + random.nextInt(4);
+        for (int m = 0; m < mourners; m++) {
+            told.append("mourner ").append(random.nextInt(6)).append(' ').append(35 + random.nextInt(35));
+            told.append(' ').append(random.nextInt(9)).append(';');
+        }
+        for (int i = 0; i < 7; i++) {
+            told.append("onion ").append(1 + random.nextInt(3)).append(' ').append(random.nextInt(mourners)).append(';');
+        }
+        told.append("joint ").append(42 + random.nextInt(12)).append(";joint ").append(42 + random.nextInt(12)).append(';');
+        told.append("piece ").append(1 + random.nextInt(3)).append(' ').append(2 + random.nextInt(6)).append(';');
+        told.append("piece ").append(1 + random.nextInt(3)).append(' ').append(2 + random.nextInt(6)).append(';');
+        return told.toString();
+    }
+
+    /** A shop's text, often with a fault. */
+    private String anyShop() {
         StringBuilder told = new StringBuilder();
         int items = random.nextInt(24);
         int mourners = 0;
@@ -263,7 +282,10 @@ public final class RandomRunsTest {
             int end = Math.min(told.length(), place + random.nextInt(3));
             told.replace(place, end, ODD[random.nextInt(ODD.length)]);
         }
-        String text = told.substring(0, Math.min(told.length(), random.nextInt(5) == 0 ? random.nextInt(251) : 250));
+        return told.substring(0, Math.min(told.length(), random.nextInt(5) == 0 ? random.nextInt(251) : 250));
+    }
+
+    private String typeAndRead(String text) {
         if (random.nextInt(5) != 0) {
             glue.clear();
             model.clear();
