@@ -155,6 +155,7 @@ public final class GriefGlue {
             return -10 - reader.fault;
         }
         shop.copyFrom(reader.shop);
+        shop.renewAllGriefs();
         return items;
     }
 
@@ -491,7 +492,7 @@ public final class GriefGlue {
         }
 
         private static int mournerStep(int g) {
-            return Math.max(g - 1, 0);
+            return g > 1 ? g - 1 : 0;
         }
 
         private static int widowStep(int g, int day) {
@@ -499,7 +500,7 @@ public final class GriefGlue {
         }
 
         private static int heirStep(int g) {
-            return Math.max(g - 3, 0);
+            return g > 3 ? g - 3 : 0;
         }
 
         static int feastOf(int what, int g) {
@@ -574,6 +575,12 @@ public final class GriefGlue {
             renewGriefs(m);
         }
 
+        void renewAllGriefs() {
+            for (int m = 0; m < mourners.size; m++) {
+                renewGriefs(m);
+            }
+        }
+
         private void renewGriefs(int m) {
             if (mourners.has(m)) {
                 fillGriefs(griefs[m], m, NONE);
@@ -644,6 +651,7 @@ public final class GriefGlue {
             return joints.has(joint) ? boils[joint * BOIL_WIDTH + 2] : NONE;
         }
 
+        /** NONE, which is less than any day till which a joint might hold, if it was never boiled. */
         int openingOf(int joint) {
             int on = boiledOn(joint);
             if (on == NONE) {
@@ -668,14 +676,10 @@ public final class GriefGlue {
             return end + 1;
         }
 
-        boolean isHeldTill(int joint, int d) {
-            return openingOf(joint) > d;
-        }
-
         int openJoints() {
             int bits = 0;
             for (int j = 0; j < joints.size; j++) {
-                if (!isHeldTill(j, day)) {
+                if (openingOf(j) <= day) {
                     bits |= 1 << j;
                 }
             }
@@ -685,7 +689,7 @@ public final class GriefGlue {
         boolean isLasting(int piece) {
             int till = Math.max(pieces.at(piece, LEASE), day);
             for (int j = 0; j < joints.size; j++) {
-                if (isPartOf(j, piece) && !isHeldTill(j, till)) {
+                if (isPartOf(j, piece) && openingOf(j) <= till) {
                     return false;
                 }
             }
@@ -995,7 +999,7 @@ public final class GriefGlue {
         private int length;
         private int place;
         private int fault = NONE;
-        // What the text has told so far: apart from the workshop, which stays if there is a fault.
+        // What the text has told so far, without griefs: apart from the workshop, which stays if there is a fault.
         private final Shop shop = new Shop();
 
         // The token read last.
@@ -1022,32 +1026,26 @@ public final class GriefGlue {
                 if (sort == END) {
                     break;
                 }
-                readItem();
                 items++;
+                if (isWord("mourner")) {
+                    readMourner();
+                } else if (isWord("joint")) {
+                    readJoint();
+                } else if (isWord("piece")) {
+                    readPiece();
+                } else if (isWord("wedding")) {
+                    readFeast(WEDDING);
+                } else if (isWord("onion")) {
+                    readFeast(ONION);
+                } else if (isWord("day")) {
+                    readDay();
+                } else if (isWord("boil")) {
+                    readBoil();
+                } else {
+                    blame();
+                }
             }
             return items;
-        }
-
-        private void readItem() {
-            if (sort != WORD) {
-                blame();
-            } else if (isWord("mourner")) {
-                readMourner();
-            } else if (isWord("joint")) {
-                readJoint();
-            } else if (isWord("piece")) {
-                readPiece();
-            } else if (isWord("wedding")) {
-                readFeast(WEDDING);
-            } else if (isWord("onion")) {
-                readFeast(ONION);
-            } else if (isWord("day")) {
-                readDay();
-            } else if (isWord("boil")) {
-                readBoil();
-            } else {
-                blame();
-            }
         }
 
         private void readMourner() {
@@ -1057,7 +1055,7 @@ public final class GriefGlue {
             int price = readNumber(0, MOST);
             readStop();
             if (fault == NONE) {
-                shop.addMourner(kind, grief, price);
+                shop.mourners.add(kind, grief, price);
             }
         }
 
@@ -1086,7 +1084,7 @@ public final class GriefGlue {
             int m = readNumber(0, shop.mourners.size - 1);
             readStop();
             if (fault == NONE) {
-                shop.addFeast(what, day, m);
+                shop.feasts.add(what, day, m);
             }
         }
 
@@ -1196,15 +1194,15 @@ public final class GriefGlue {
         }
 
         private static boolean isLetter(int sign) {
-            return isWithin(sign, 'a', 'z');
+            return sign >= 'a' && sign <= 'z';
         }
 
         private static boolean isFigure(int sign) {
-            return isWithin(sign, '0', '9');
+            return sign >= '0' && sign <= '9';
         }
 
         private boolean isWord(String word) {
-            if (place - start != word.length()) {
+            if (sort != WORD || place - start != word.length()) {
                 return false;
             }
             for (int i = 0; i < word.length() && start + i < length; i++) {
