@@ -213,6 +213,23 @@ public final class FaultsTest {
         fault("mourner 000;", 8);
         fault("mourner 00 0;", 12);
         fault("jo int 5;", 0);
+        for (String letter : new String[] {"a", "m", "z"}) {
+            fault("joint" + letter + " 5;", 0);
+            fault(letter + "joint 5;", 0);
+        }
+        for (String none : new String[] {"`", "{", "A", "Z", "@", "["}) {
+            fault("joint" + none + " 5;", 5);
+            fault(none + "joint 5;", 0);
+        }
+        for (String none : new String[] {"/", ":", "<"}) {
+            fault("joint 5" + none + ";", 7);
+            fault("joint " + none + "5;", 6);
+        }
+        for (String word : new String[] {"mourner", "joint", "piece", "wedding", "onion", "day", "boil"}) {
+            for (int i = 0; i < word.length(); i++) {
+                fault(word.substring(0, i) + "x" + word.substring(i + 1) + " 1 1 1;", 0);
+            }
+        }
         fault("joint 5 5;", 8);
         fault("mourner 0 0 0;joint0;mourner 0 0 0;boil 00;", 42);
         fault("mourner 0 0 0;joint0;mourner 0 0 0;boil 01;", 40);
@@ -343,6 +360,26 @@ public final class FaultsTest {
         due.is("what comes behind may be undone", x.undo(), 1);
         due.is("to what was read", x.count(5), 4);
         due.is("and no farther", x.undo(), -3);
+        nothingOfAnEarlierText(x);
+    }
+
+    private static void nothingOfAnEarlierText(GriefGlue x) {
+        Due.put(x, "mourner 4 50 0;mourner 4 50 0;joint 9;joint 9;day 9;boil 0 0;boil 1 0 1;wedding 9 0;piece 3 9;");
+        due.is("read()", x.read(), 9);
+        Due.put(x, "mourner 4 50 0;joint 9;");
+        due.is("read() of less", x.read(), 2);
+        due.is("no boiling of an earlier text", x.opens(0), -1);
+        due.is("no feast of an earlier text", x.grief(0, 9), 50);
+        due.is("no day of an earlier text", x.count(5), 0);
+        due.is("no piece of an earlier text", x.count(2), 0);
+        due.is("joint 1", x.joint(9), 1);
+        due.is("it was never boiled", x.opens(1), -1);
+        Due.put(x, "mourner 4 50 0;joint 9;boil 0 0;day 5;x");
+        due.is("a fault", x.read(), -48);
+        Due.put(x, "mourner 4 50 0;joint 9;");
+        due.is("read() again", x.read(), 2);
+        due.is("no boiling of a text with a fault", x.opens(0), -1);
+        due.is("no day of a text with a fault", x.count(5), 0);
     }
 
     // "-10 less the FAULT: all stays."

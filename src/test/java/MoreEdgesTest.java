@@ -42,6 +42,7 @@ public final class MoreEdgesTest {
         oddsInLowestTerms();
         oddsBehindFeasts();
         oddsOnTheLastDay();
+        oddsOfAllGriefs();
         oddsBeyondTheLastDay();
         harmOfFeasts();
         harmOfBoiledOnes();
@@ -213,6 +214,10 @@ public final class MoreEdgesTest {
             GriefGlue x = Due.shop(shop + "joint 50;piece 1 99;");
             hireIs("alone " + m, x, 1, 1 << m);
             is("alone " + m + ": who(0)", x.who(0), 60 + m);
+        }
+        GriefGlue six = Due.shop("mourner 4 50 1;" + "joint 50;".repeat(6) + "piece 63 9;");
+        for (int j = 0; j <= 5; j++) {
+            is("of six joints: who(" + j + ")", six.who(j), 60);
         }
     }
 
@@ -394,6 +399,9 @@ public final class MoreEdgesTest {
         GriefGlue heir = Due.shop("mourner 2 99 0;");
         is("97: 96 on day 1, and 5 is cut at 99, 96 on day 2", heir.tears(0, 97, 2), 2);
         is("96: 96 on day 1, 98 on day 2", heir.tears(0, 96, 2), 1);
+        GriefGlue none = Due.shop("mourner 3 5 0;onion 30 0;day 30;onion 31 0;");
+        is("5 by an onion of day 31 that is", none.tears(0, 5, 31), 0);
+        is("5 by an onion of day 32 more", none.tears(0, 5, 32), 1);
     }
 
     // A poet above 50 falls, so that more may be worse.
@@ -601,6 +609,31 @@ public final class MoreEdgesTest {
         oddsAre(y, 0, 12, 1, 3, 1, 1);
     }
 
+    // GRIEFS are 0 .. 99, and what comes to a like grief by several ways is one chance.
+    private static void oddsOfAllGriefs() {
+        GriefGlue x = Due.shop("mourner 0 99 0;mourner 0 0 0;mourner 2 4 0;onion 1 0;onion 1 1;onion 3 1;wedding 3 2;");
+        oddsAre(x, 0, 99, 0, 5, 1, 1);
+        oddsAre(x, 0, 99, 1, 3, 7, 10);
+        oddsAre(x, 0, 98, 2, 3, 49, 100);
+        oddsAre(x, 0, 49, 1, 3, 1, 1);
+        oddsAre(x, 1, 0, 0, 5, 1, 1);
+        oddsAre(x, 1, 1, 0, 5, 0, 1);
+        oddsAre(x, 1, 5, 1, 3, 7, 10);
+        oddsAre(x, 1, 2, 1, 3, 1, 1);
+        oddsAre(x, 1, 3, 1, 3, 7, 10);
+        oddsAre(x, 1, 5, 3, 3, 7, 10);
+        oddsAre(x, 2, 1, 1, 3, 7, 10);
+        oddsAre(x, 2, 1, 2, 3, 0, 1);
+        for (int kind = 0; kind <= 5; kind++) {
+            for (int grief = 0; grief <= 99; grief += 9) {
+                GriefGlue y = new GriefGlue();
+                y.mourner(kind, grief, 0);
+                oddsAre(y, 0, 0, 15, 5, 1, 1);
+                oddsAre(y, 0, 99, 15, 3, 0, 1);
+            }
+        }
+    }
+
     // Promise 24: "BAD: DAYS beyond 99, too."
     private static void oddsBeyondTheLastDay() {
         GriefGlue x = Due.shop("mourner 4 50 0;day 84;");
@@ -793,6 +826,9 @@ public final class MoreEdgesTest {
         }
         x.image(1);
         x.from(0);
+        for (int d = 30; d < 40; d++) {
+            x.day(d);
+        }
         x.from(1);
         for (int d = 18; d >= 10; d--) {
             is("ten of an image: undo()", x.undo(), 1);
